@@ -57,11 +57,11 @@ public final class MicroLc3 {
     // One routine for each opcode, and after them the one that fetches.
     private static final int ROWS = 4;
     private static final int FETCH = 16;
-    private static final int ROUTINES = 17;
+    private static final int MICROCODE_ROWS = (FETCH + 1) * ROWS;
 
     // Each object holds its own microcode, because the language allows no
     // static array.
-    private final int[] microcode = new int[ROUTINES * ROWS];
+    private final int[] microcode = new int[MICROCODE_ROWS];
     private final int[] registers = new int[REGISTERS];
     private final int[] cells = new int[CELLS];
     private int pc = 0;

@@ -128,34 +128,38 @@ public final class OpcodesTest {
         }
     }
 
-    /** Rows: n9 at place 0, the cell it names, that cell's word, and the cell named by it. */
+    /** Rows: n9 at place 0, the cell it names, that cell's word, and the other cell named by it. */
     private static void loadAndStoreByACell() {
-        int[][] cases = {{5, 6, 30, 30}, {62, 63, 65535, 63}, {-2, 63, 64 + 7, 7}, {-256, 1, 32768 + 9, 9}, {255, 0, 0, 0}};
+        int[][] cases = {{5, 6, 30, 30}, {62, 63, 65534, 62}, {-2, 63, 64 + 7, 7}, {-256, 1, 32768 + 9, 9}, {0, 1, 63, 63}};
         for (int[] c : cases) {
-            int load = Instructions.near(10, 4, c[0]);
-            MicroLc3 x = at(0, load);
-            if (c[1] != 0) {
-                x.poke(c[1], c[2]);
-                int want = c[1] == c[3] ? c[2] : 4321;
-                x.poke(c[3], want);
-                x.step(1);
-                Due.is("load by cell " + c[1], x.register(4), want);
-                Due.is("cell " + c[1] + " after a load", x.peek(c[1]), c[1] == c[3] ? want : c[2]);
-            }
+            MicroLc3 x = at(0, Instructions.near(10, 4, c[0]));
+            x.poke(c[1], c[2]);
+            x.poke(c[3], 4321);
+            x.step(1);
+            Due.is("load by cell " + c[1], x.register(4), 4321);
+            Due.is("cell " + c[1] + " after a load by it", x.peek(c[1]), c[2]);
 
-            int store = Instructions.near(11, 4, c[0]);
-            MicroLc3 y = at(0, store);
-            int named = c[1] == 0 ? store & 63 : c[3];
-            if (c[1] != 0) {
-                y.poke(c[1], c[2]);
-            }
+            MicroLc3 y = at(0, Instructions.near(11, 4, c[0]));
+            y.poke(c[1], c[2]);
             y.setRegister(4, 1234);
             y.step(1);
-            Due.is("store by cell " + c[1], y.peek(named), 1234);
-            if (c[1] != named && c[1] != 0) {
-                Due.is("cell " + c[1] + " after a store", y.peek(c[1]), c[2]);
-            }
+            Due.is("store by cell " + c[1], y.peek(c[3]), 1234);
+            Due.is("cell " + c[1] + " after a store by it", y.peek(c[1]), c[2]);
         }
+        aCellThatNamesItself();
+    }
+
+    private static void aCellThatNamesItself() {
+        MicroLc3 x = at(0, Instructions.near(10, 4, 62));
+        x.poke(63, 65535);
+        x.step(1);
+        Due.is("load by cell 63 that names itself", x.register(4), 65535);
+
+        MicroLc3 y = at(0, Instructions.near(11, 4, 62));
+        y.poke(63, 65535);
+        y.setRegister(4, 1234);
+        y.step(1);
+        Due.is("store by cell 63 that names itself", y.peek(63), 1234);
     }
 
     private static void branch() {
