@@ -1,13 +1,10 @@
 /** Promises 2 and 3. */
 public final class CellsTest {
-    private static final int[] WRONG_CELLS = {-1, 64, 65, -64, 127, Integer.MIN_VALUE, Integer.MAX_VALUE};
-
     public static void main(String[] args) {
         everyCellHoldsItsOwnWord();
-        edgeWordsAreHeld();
-        wrongCellsAreRefused();
-        wrongWordsAreRefused();
-        nothingElseChanges();
+        bothSidesOfTheCells();
+        bothSidesOfTheWords();
+        onlyThatCellChanges();
         Due.end();
     }
 
@@ -21,48 +18,41 @@ public final class CellsTest {
         }
     }
 
-    private static void edgeWordsAreHeld() {
-        for (int word : Due.EDGE_WORDS) {
+    /** "cell outside 0..63: refused, answers false. Else true", and "BAD for cell outside 0..63". */
+    private static void bothSidesOfTheCells() {
+        int[] cells = {Integer.MIN_VALUE, -64, -1, 0, 1, 62, 63, 64, 65, 127, 65536, Integer.MAX_VALUE};
+        for (int cell : cells) {
+            boolean right = cell >= 0 && cell <= 63;
             MicroLc3 x = new MicroLc3();
-            for (int cell = 0; cell < 64; cell += 63) {
-                x.poke(cell, 12345);
+            Due.is("peek(" + cell + ") of a new object", x.peek(cell), right ? 0 : MicroLc3.BAD);
+            Due.is("poke(" + cell + ", 7)", x.poke(cell, 7), right);
+            Due.is("peek(" + cell + ") after poke(" + cell + ", 7)", x.peek(cell), right ? 7 : MicroLc3.BAD);
+        }
+    }
+
+    /** "word outside 0..65535: refused, answers false. Else true". */
+    private static void bothSidesOfTheWords() {
+        for (int cell = 0; cell < 64; cell++) {
+            MicroLc3 x = new MicroLc3();
+            for (int word : Due.EDGE_WORDS) {
                 Due.is("poke(" + cell + ", " + word + ")", x.poke(cell, word), true);
                 Due.is("peek(" + cell + ") after " + word, x.peek(cell), word);
             }
-        }
-    }
-
-    private static void wrongCellsAreRefused() {
-        for (int cell : WRONG_CELLS) {
-            MicroLc3 x = new MicroLc3();
-            Due.is("poke(" + cell + ", 7)", x.poke(cell, 7), false);
-            Due.is("peek(" + cell + ")", x.peek(cell), MicroLc3.BAD);
-            for (int other = 0; other < 64; other++) {
-                Due.is("peek(" + other + ") after a refused poke(" + cell + ", 7)", x.peek(other), 0);
+            for (int word : Due.WRONG_WORDS) {
+                Due.is("poke(" + cell + ", " + word + ")", x.poke(cell, word), false);
+                Due.is("peek(" + cell + ") after a refused " + word, x.peek(cell), 65535);
             }
         }
     }
 
-    private static void wrongWordsAreRefused() {
-        for (int word : Due.WRONG_WORDS) {
-            MicroLc3 x = new MicroLc3();
-            x.poke(5, 99);
-            Due.is("poke(5, " + word + ")", x.poke(5, word), false);
-            Due.is("peek(5) after a refused " + word, x.peek(5), 99);
-            Due.is("poke(64, " + word + ")", x.poke(64, word), false);
+    /** "Sets a cell": on a halted object with the sign -1, nothing else is set. */
+    private static void onlyThatCellChanges() {
+        for (int cell = 0; cell < 64; cell++) {
+            for (int word : Due.EDGE_WORDS) {
+                new Scene("poke(" + cell + ", " + word + ")").fullCells().sign(-1)
+                    .at(20, Instructions.HALT).executesOne().dueStatus(MicroLc3.HALTED)
+                    .cell(cell, word).shows();
+            }
         }
-    }
-
-    private static void nothingElseChanges() {
-        MicroLc3 x = new MicroLc3();
-        x.poke(0, Instructions.HALT);
-        x.step(1);
-        x.poke(1, 65535);
-        x.peek(1);
-        Due.is("status() after poke", x.status(), MicroLc3.HALTED);
-        Due.is("place() after poke", x.place(), 1);
-        Due.is("sign() after poke", x.sign(), 0);
-        Due.is("count() after poke", x.count(), 1);
-        Due.is("register(1) after poke", x.register(1), 0);
     }
 }

@@ -2,37 +2,35 @@
 public final class NewObjectTest {
     public static void main(String[] args) {
         everythingIsZero();
+        aNewObjectRuns();
         objectsAreApart();
         Due.end();
     }
 
+    /** "All words 0, the sign 0, the status RUNNING", which is 0 too, as is the count. */
     private static void everythingIsZero() {
-        MicroLc3 x = new MicroLc3();
-        for (int cell = 0; cell < 64; cell++) {
-            Due.is("new: peek(" + cell + ")", x.peek(cell), 0);
-        }
-        for (int r = 0; r < 8; r++) {
-            Due.is("new: register(" + r + ")", x.register(r), 0);
-        }
-        Due.is("new: place()", x.place(), 0);
-        Due.is("new: sign()", x.sign(), 0);
-        Due.is("new: status()", x.status(), MicroLc3.RUNNING);
-        Due.is("new: count()", x.count(), 0);
-        Due.is("new: step(1)", x.step(1), 1);
-        Due.is("new: place() after a step", x.place(), 1);
+        Shown.same("new", Shown.by(new MicroLc3()), new int[Shown.SIZE]);
+        Due.is("new: status()", new MicroLc3().status(), MicroLc3.RUNNING);
+    }
+
+    /** Without a start: a cell of 0 is a branch that asks for no sign. */
+    private static void aNewObjectRuns() {
+        new Scene("new: step(1)").executesOne().duePlace(1).shows();
     }
 
     private static void objectsAreApart() {
         MicroLc3 x = new MicroLc3();
         MicroLc3 y = new MicroLc3();
+        for (int cell = 2; cell < 64; cell++) {
+            x.poke(cell, 65535);
+        }
+        for (int r = 0; r < 8; r++) {
+            x.setRegister(r, 65535);
+        }
         x.poke(0, Instructions.withNumber(1, 3, 3, -1));
         x.poke(1, Instructions.HALT);
         x.step(2);
-        Due.is("other object: peek(0)", y.peek(0), 0);
-        Due.is("other object: register(3)", y.register(3), 0);
-        Due.is("other object: place()", y.place(), 0);
-        Due.is("other object: sign()", y.sign(), 0);
-        Due.is("other object: status()", y.status(), MicroLc3.RUNNING);
-        Due.is("other object: count()", y.count(), 0);
+        Shown.same("an object made before another one's run", Shown.by(y), new int[Shown.SIZE]);
+        Shown.same("an object made after another one's run", Shown.by(new MicroLc3()), new int[Shown.SIZE]);
     }
 }

@@ -1,212 +1,215 @@
-/** The instructions that promise 7 executes, one by one, with the edges of their numbers. */
+/**
+ * The rows of the opcodes, which promise 7 executes: every choice of the registers, those among
+ * them that are the same one, the bits that a row leaves free, and the cells that name themselves.
+ * A scene shows that nothing changes beside what a row says.
+ */
 public final class OpcodesTest {
+    /** Words in which each bit is seen both set and clear; register r holds WORDS[r]. */
+    private static final int[] WORDS = {0, 65535, 43690, 21845, 32768, 32767, 4660, 61680};
+
     public static void main(String[] args) {
-        add();
-        and();
+        sumOrAndOfRegisters();
+        sumOrAndWithN5();
+        sumOrAndByBit5();
         not();
         nearPlace();
         nearLoadAndStore();
         basedLoadAndStore();
         loadAndStoreByACell();
+        anInstructionThatNamesItself();
+        aCellThatNamesItself();
         branch();
+        branchThatIsNotAsked();
         jump();
-        call();
+        callByN11();
+        callByARegister();
+        endings();
         Due.end();
     }
 
-    private static MicroLc3 at(int place, int instruction) {
-        MicroLc3 x = new MicroLc3();
-        x.start(place);
-        x.poke(place & 63, instruction);
-        return x;
+    private static Scene withWords(String name) {
+        Scene scene = new Scene(name).fullCells();
+        for (int r = 0; r < 8; r++) {
+            scene.register(r, WORDS[r]);
+        }
+        return scene;
     }
 
-    private static void add() {
-        int[][] sums = {{3, 4, 7}, {65535, 1, 0}, {65535, 65535, 65534}, {32768, 32768, 0}, {32767, 1, 32768}};
-        for (int[] sum : sums) {
-            MicroLc3 x = at(0, Instructions.withRegister(1, 0, 7, 5));
-            x.setRegister(7, sum[0]);
-            x.setRegister(5, sum[1]);
-            x.step(1);
-            Due.is(sum[0] + " + " + sum[1], x.register(0), sum[2]);
-            Due.is("register 7 after a sum", x.register(7), sum[0]);
-            Due.is("register 5 after a sum", x.register(5), sum[1]);
-        }
-        int[][] numbers = {{10, 15, 25}, {10, -16, 65530}, {65535, 15, 14}, {0, -1, 65535}, {16, -16, 0}, {9, 0, 9}};
-        for (int[] sum : numbers) {
-            MicroLc3 x = at(0, Instructions.withNumber(1, 7, 0, sum[1]));
-            x.setRegister(0, sum[0]);
-            x.step(1);
-            Due.is(sum[0] + " + n5 " + sum[1], x.register(7), sum[2]);
-        }
-        MicroLc3 x = at(0, Instructions.withRegister(1, 3, 3, 3));
-        x.setRegister(3, 40000);
-        x.step(1);
-        Due.is("40000 + 40000 in one register", x.register(3), 14464);
-    }
-
-    private static void and() {
-        int[][] words = {{65535, 4660, 4660}, {43690, 21845, 0}, {61680, 65280, 61440}};
-        for (int[] pair : words) {
-            MicroLc3 x = at(0, Instructions.withRegister(5, 0, 7, 5));
-            x.setRegister(7, pair[0]);
-            x.setRegister(5, pair[1]);
-            x.step(1);
-            Due.is(pair[0] + " & " + pair[1], x.register(0), pair[2]);
-        }
-        int[][] numbers = {{65535, 15, 15}, {65535, -16, 65520}, {65535, -1, 65535}, {4660, -1, 4660}, {4660, 0, 0}};
-        for (int[] pair : numbers) {
-            MicroLc3 x = at(0, Instructions.withNumber(5, 7, 0, pair[1]));
-            x.setRegister(0, pair[0]);
-            x.step(1);
-            Due.is(pair[0] + " & n5 " + pair[1], x.register(7), pair[2]);
-        }
-    }
-
-    private static void not() {
-        int[][] words = {{0, 65535}, {65535, 0}, {43690, 21845}, {32768, 32767}};
-        int[] lowestBits = {0, 31, 32, 63};
-        for (int[] pair : words) {
-            for (int low : lowestBits) {
-                MicroLc3 x = at(0, Instructions.based(9, 7, 2, low));
-                x.setRegister(2, pair[0]);
-                x.step(1);
-                Due.is("not " + pair[0], x.register(7), pair[1]);
-                Due.is("register 2 after a not", x.register(2), pair[0]);
-            }
-        }
-    }
-
-    private static void nearPlace() {
-        int[][] cases = {{0, 0, 1}, {0, 255, 256}, {0, -256, 65281}, {65535, -1, 65535}, {65535, 255, 255}, {300, -256, 45}};
-        for (int[] c : cases) {
-            MicroLc3 x = at(c[0], Instructions.near(14, 5, c[1]));
-            x.step(1);
-            Due.is("near place " + c[1] + " at " + c[0], x.register(5), c[2]);
-            Due.is("place() after it", x.place(), (c[0] + 1) & 65535);
-        }
-    }
-
-    /** Rows: the place, n9, and the cell that is named. */
-    private static void nearLoadAndStore() {
-        int[][] cases = {{0, 5, 6}, {0, 62, 63}, {0, 63, 0}, {0, 255, 0}, {0, -256, 1}, {0, -2, 63},
-            {65535, 0, 0}, {65535, -1, 63}, {64, 9, 10}, {1000, -100, 5}, {1000, 100, 13}};
-        for (int[] c : cases) {
-            int load = Instructions.near(2, 3, c[1]);
-            MicroLc3 x = at(c[0], load);
-            boolean itself = c[2] == (c[0] & 63);
-            if (!itself) {
-                x.poke(c[2], 4321);
-            }
-            x.step(1);
-            Due.is("load " + c[1] + " at " + c[0], x.register(3), itself ? load : 4321);
-
-            MicroLc3 y = at(c[0], Instructions.near(3, 3, c[1]));
-            y.setRegister(3, 65535);
-            y.step(1);
-            Due.is("store " + c[1] + " at " + c[0], y.peek(c[2]), 65535);
-            Due.is("register 3 after a store", y.register(3), 65535);
-        }
-    }
-
-    /** Rows: the word of register s, n6, and the cell that is named. */
-    private static void basedLoadAndStore() {
-        int[][] cases = {{10, 0, 10}, {10, 31, 41}, {42, -32, 10}, {65535, 3, 2}, {2, -3, 63}, {64, 5, 5}, {65535, 0, 63}};
-        for (int[] c : cases) {
-            MicroLc3 x = at(20, Instructions.based(6, 2, 6, c[1]));
-            x.poke(c[2], 4321);
-            x.setRegister(6, c[0]);
-            x.step(1);
-            Due.is("load by " + c[0] + " + " + c[1], x.register(2), 4321);
-            Due.is("register 6 after a load", x.register(6), c[0]);
-
-            MicroLc3 y = at(20, Instructions.based(7, 2, 6, c[1]));
-            y.setRegister(6, c[0]);
-            y.setRegister(2, 1234);
-            y.step(1);
-            Due.is("store by " + c[0] + " + " + c[1], y.peek(c[2]), 1234);
-        }
-    }
-
-    /** Rows: n9 at place 0, the cell it names, that cell's word, and the other cell named by it. */
-    private static void loadAndStoreByACell() {
-        int[][] cases = {{5, 6, 30, 30}, {62, 63, 65534, 62}, {-2, 63, 64 + 7, 7}, {-256, 1, 32768 + 9, 9}, {0, 1, 63, 63}};
-        for (int[] c : cases) {
-            MicroLc3 x = at(0, Instructions.near(10, 4, c[0]));
-            x.poke(c[1], c[2]);
-            x.poke(c[3], 4321);
-            x.step(1);
-            Due.is("load by cell " + c[1], x.register(4), 4321);
-            Due.is("cell " + c[1] + " after a load by it", x.peek(c[1]), c[2]);
-
-            MicroLc3 y = at(0, Instructions.near(11, 4, c[0]));
-            y.poke(c[1], c[2]);
-            y.setRegister(4, 1234);
-            y.step(1);
-            Due.is("store by cell " + c[1], y.peek(c[3]), 1234);
-            Due.is("cell " + c[1] + " after a store by it", y.peek(c[1]), c[2]);
-        }
-        aCellThatNamesItself();
-    }
-
-    private static void aCellThatNamesItself() {
-        MicroLc3 x = at(0, Instructions.near(10, 4, 62));
-        x.poke(63, 65535);
-        x.step(1);
-        Due.is("load by cell 63 that names itself", x.register(4), 65535);
-
-        MicroLc3 y = at(0, Instructions.near(11, 4, 62));
-        y.poke(63, 65535);
-        y.setRegister(4, 1234);
-        y.step(1);
-        Due.is("store by cell 63 that names itself", y.peek(63), 1234);
-    }
-
-    private static void branch() {
-        int[] numbers = {0, 1, 255, -1, -256};
-        for (int sign = -1; sign <= 1; sign++) {
-            for (int asked = 0; asked < 8; asked++) {
-                for (int n9 : numbers) {
-                    MicroLc3 x = at(3, Instructions.withNumber(1, 0, 0, sign));
-                    x.poke(4, Instructions.near(0, asked, n9));
-                    x.step(2);
-                    boolean taken = sign == -1 && (asked & 4) != 0 || sign == 0 && (asked & 2) != 0
-                        || sign == 1 && (asked & 1) != 0;
-                    int want = taken ? (5 + n9) & 65535 : 5;
-                    Due.is("branch " + asked + " by " + n9 + " at sign " + sign, x.place(), want);
+    /** Opcodes 1 and 5 with bit 5 clear; bits 4 and 3 are free. */
+    private static void sumOrAndOfRegisters() {
+        for (int d = 0; d < 8; d++) {
+            for (int s = 0; s < 8; s++) {
+                for (int t = 0; t < 8; t++) {
+                    int free = (d + s + t) % 4 << 3;
+                    withWords("sum " + d + s + t).at(20, Instructions.withRegister(1, d, s, t) | free)
+                        .executesOne().dueResult(d, (WORDS[s] + WORDS[t]) % 65536).shows();
+                    withWords("and " + d + s + t).at(20, Instructions.withRegister(5, d, s, t) | free)
+                        .executesOne().dueResult(d, WORDS[s] & WORDS[t]).shows();
                 }
             }
         }
     }
 
-    private static void jump() {
-        for (int word : Due.EDGE_WORDS) {
+    private static void sumOrAndWithN5() {
+        for (int d = 0; d < 8; d++) {
             for (int s = 0; s < 8; s++) {
-                MicroLc3 x = at(9, Instructions.based(12, 5, s, 63));
-                x.setRegister(s, word);
-                x.step(1);
-                Due.is("jump by register " + s, x.place(), word);
-                Due.is("register " + s + " after a jump", x.register(s), word);
-                Due.is("register 7 after a jump", x.register(7), s == 7 ? word : 0);
+                withWords("sum " + d + s + " with 5").at(20, Instructions.withNumber(1, d, s, 5))
+                    .executesOne().dueResult(d, (WORDS[s] + 5) % 65536).shows();
+                withWords("and " + d + s + " with 5").at(20, Instructions.withNumber(5, d, s, 5))
+                    .executesOne().dueResult(d, WORDS[s] & 5).shows();
             }
         }
     }
 
-    private static void call() {
-        int[][] cases = {{0, 0, 1}, {0, 1023, 1024}, {0, -1024, 64513}, {0, -1, 0}, {65535, 5, 5}, {65535, -1, 65535}};
-        for (int[] c : cases) {
-            MicroLc3 x = at(c[0], Instructions.call(c[1]));
-            x.step(1);
-            Due.is("call " + c[1] + " at " + c[0], x.place(), c[2]);
-            Due.is("register 7 after a call", x.register(7), (c[0] + 1) & 65535);
+    /** "if bit 5 is 0, else": the five bits below it are the same on both sides. */
+    private static void sumOrAndByBit5() {
+        for (int low = 0; low < 32; low++) {
+            int t = low % 8;
+            int n5 = low < 16 ? low : low + 65536 - 32;
+            withWords("sum, bit 5 clear, " + low).at(20, 1 << 12 | 3 << 9 | 6 << 6 | low)
+                .executesOne().dueResult(3, (4660 + WORDS[t]) % 65536).shows();
+            withWords("sum, bit 5 set, " + low).at(20, 1 << 12 | 3 << 9 | 6 << 6 | 32 | low)
+                .executesOne().dueResult(3, (4660 + n5) % 65536).shows();
+            withWords("and, bit 5 clear, " + low).at(20, 5 << 12 | 3 << 9 | 6 << 6 | low)
+                .executesOne().dueResult(3, 4660 & WORDS[t]).shows();
+            withWords("and, bit 5 set, " + low).at(20, 5 << 12 | 3 << 9 | 6 << 6 | 32 | low)
+                .executesOne().dueResult(3, 4660 & n5).shows();
         }
-        for (int s = 0; s < 8; s++) {
-            MicroLc3 x = at(9, Instructions.based(4, 3, s, 63));
-            x.setRegister(s, 65500);
+    }
+
+    /** Opcode 9; bits 5 to 0 are free. */
+    private static void not() {
+        int[] free = {0, 31, 32, 63};
+        for (int low : free) {
+            for (int d = 0; d < 8; d++) {
+                for (int s = 0; s < 8; s++) {
+                    withWords("not " + d + s).at(20, Instructions.based(9, d, s, low))
+                        .executesOne().dueResult(d, 65535 - WORDS[s]).shows();
+                }
+            }
+        }
+    }
+
+    private static void nearPlace() {
+        for (int d = 0; d < 8; d++) {
+            withWords("near place " + d).at(1000, Instructions.near(14, d, 100))
+                .executesOne().dueResult(d, 1101).shows();
+        }
+    }
+
+    private static void nearLoadAndStore() {
+        for (int d = 0; d < 8; d++) {
+            withWords("near load " + d).at(20, Instructions.near(2, d, 9))
+                .executesOne().dueResult(d, 40030).shows();
+            withWords("near store " + d).at(20, Instructions.near(3, d, 9))
+                .executesOne().dueCell(30, WORDS[d]).shows();
+        }
+    }
+
+    private static void basedLoadAndStore() {
+        for (int d = 0; d < 8; d++) {
+            for (int s = 0; s < 8; s++) {
+                Scene load = withWords("based load " + d + s).at(20, Instructions.based(6, d, s, 9));
+                load.executesOne().dueResult(d, load.wordOf((WORDS[s] + 9) % 64)).shows();
+                withWords("based store " + d + s).at(20, Instructions.based(7, d, s, 9))
+                    .executesOne().dueCell((WORDS[s] + 9) % 64, WORDS[d]).shows();
+            }
+        }
+    }
+
+    private static void loadAndStoreByACell() {
+        for (int d = 0; d < 8; d++) {
+            withWords("load by a cell " + d).at(20, Instructions.near(10, d, 9)).cell(30, 50)
+                .executesOne().dueResult(d, 40050).shows();
+            withWords("store by a cell " + d).at(20, Instructions.near(11, d, 9)).cell(30, 50)
+                .executesOne().dueCell(50, WORDS[d]).shows();
+        }
+    }
+
+    /** IR has been taken before the cell changes, so an instruction may load itself and write over itself. */
+    private static void anInstructionThatNamesItself() {
+        int load = Instructions.near(2, 6, -1);
+        withWords("load of itself").at(20, load).executesOne().dueResult(6, load).shows();
+        withWords("store over itself").at(20, Instructions.near(3, 6, -1))
+            .executesOne().dueCell(20, 4660).shows();
+        withWords("based store over itself").at(20, Instructions.based(7, 6, 0, 20))
+            .executesOne().dueCell(20, 4660).shows();
+        // As an address, an instruction of n9 = -1 names cell 63.
+        withWords("load by itself").at(20, Instructions.near(10, 6, -1))
+            .executesOne().dueResult(6, 40063).shows();
+        withWords("store by itself").at(20, Instructions.near(11, 6, -1))
+            .executesOne().dueCell(63, 4660).shows();
+    }
+
+    private static void aCellThatNamesItself() {
+        withWords("load by a cell that names itself").at(20, Instructions.near(10, 6, 42)).cell(63, 65535)
+            .executesOne().dueResult(6, 65535).shows();
+        withWords("store by a cell that names itself").at(20, Instructions.near(11, 6, 42)).cell(63, 65535)
+            .executesOne().dueCell(63, 4660).shows();
+    }
+
+    /** Bits 11, 10 and 9 ask for the signs -1, 0 and 1. */
+    private static void branch() {
+        boolean[][] taken = {
+            {false, false, false}, {false, false, true}, {false, true, false}, {false, true, true},
+            {true, false, false}, {true, false, true}, {true, true, false}, {true, true, true}};
+        int[] numbers = {0, 1, 255, -1, -256};
+        for (int asked = 0; asked < 8; asked++) {
+            for (int sign = -1; sign <= 1; sign++) {
+                for (int n9 : numbers) {
+                    int goal = taken[asked][sign + 1] ? 1000 + n9 : 1000;
+                    new Scene("branch " + asked + " by " + n9 + " at sign " + sign).sign(sign)
+                        .at(999, Instructions.near(0, asked, n9))
+                        .executesOne().duePlace(goal).shows();
+                }
+            }
+        }
+    }
+
+    private static void branchThatIsNotAsked() {
+        for (int n9 = 0; n9 < 512; n9++) {
+            MicroLc3 x = new MicroLc3();
+            x.poke(0, n9);
             x.step(1);
-            Due.is("call by register " + s, x.place(), 65500);
-            Due.is("register 7 after a call by register " + s, x.register(7), 10);
-            Due.is("register " + s + " after a call by it", x.register(s), s == 7 ? 10 : 65500);
+            Due.is("place() after " + n9, x.place(), 1);
+        }
+    }
+
+    /** Opcode 12; bits 11 to 9 and 5 to 0 are free. */
+    private static void jump() {
+        for (int s = 0; s < 8; s++) {
+            for (int free = 0; free < 8; free++) {
+                withWords("jump by register " + s).at(20, Instructions.based(12, free, s, free * 9))
+                    .executesOne().duePlace(WORDS[s]).shows();
+            }
+        }
+    }
+
+    private static void callByN11() {
+        int[][] cases = {{0, 1001}, {500, 1501}, {-500, 501}};
+        for (int[] c : cases) {
+            withWords("call by " + c[0]).at(1000, Instructions.call(c[0]))
+                .executesOne().duePlace(c[1]).dueRegister(7, 1001).shows();
+        }
+    }
+
+    /** Opcode 4 with bit 11 clear; "what register s was before" matters where s is 7. Bits 10, 9 and 5 to 0 are free. */
+    private static void callByARegister() {
+        for (int s = 0; s < 8; s++) {
+            for (int free = 0; free < 4; free++) {
+                withWords("call by register " + s).at(1000, Instructions.based(4, free, s, free * 21))
+                    .executesOne().duePlace(WORDS[s]).dueRegister(7, 1001).shows();
+            }
+        }
+    }
+
+    /** Opcodes 15, 8 and 13; all other bits are free. */
+    private static void endings() {
+        int[] free = {0, 1, 2048, 4095};
+        for (int bits : free) {
+            withWords("opcode 15").at(20, 15 << 12 | bits).executesOne().dueStatus(MicroLc3.HALTED).shows();
+            withWords("opcode 8").at(20, 8 << 12 | bits).executesOne().dueStatus(MicroLc3.ILLEGAL).shows();
+            withWords("opcode 13").at(20, 13 << 12 | bits).executesOne().dueStatus(MicroLc3.ILLEGAL).shows();
         }
     }
 }

@@ -1,13 +1,10 @@
 /** Promises 4 and 5. */
 public final class RegistersTest {
-    private static final int[] WRONG_REGISTERS = {-1, 8, 9, -8, 15, Integer.MIN_VALUE, Integer.MAX_VALUE};
-
     public static void main(String[] args) {
         everyRegisterHoldsItsOwnWord();
-        edgeWordsAreHeld();
-        wrongRegistersAreRefused();
-        wrongWordsAreRefused();
-        nothingElseChanges();
+        bothSidesOfTheRegisters();
+        bothSidesOfTheWords();
+        onlyThatRegisterChanges();
         Due.end();
     }
 
@@ -21,48 +18,43 @@ public final class RegistersTest {
         }
     }
 
-    private static void edgeWordsAreHeld() {
-        for (int word : Due.EDGE_WORDS) {
+    /** "r outside 0..7: refused, answers false. Else true", and "BAD for r outside 0..7". */
+    private static void bothSidesOfTheRegisters() {
+        int[] registers = {Integer.MIN_VALUE, -8, -1, 0, 1, 6, 7, 8, 9, 15, 63, 65536, Integer.MAX_VALUE};
+        for (int r : registers) {
+            boolean right = r >= 0 && r <= 7;
             MicroLc3 x = new MicroLc3();
-            for (int r = 0; r < 8; r += 7) {
-                x.setRegister(r, 12345);
+            Due.is("register(" + r + ") of a new object", x.register(r), right ? 0 : MicroLc3.BAD);
+            Due.is("setRegister(" + r + ", 9)", x.setRegister(r, 9), right);
+            Due.is("register(" + r + ") after setRegister(" + r + ", 9)", x.register(r), right ? 9 : MicroLc3.BAD);
+        }
+    }
+
+    /** "word outside 0..65535: refused, answers false. Else true". */
+    private static void bothSidesOfTheWords() {
+        for (int r = 0; r < 8; r++) {
+            MicroLc3 x = new MicroLc3();
+            for (int word : Due.EDGE_WORDS) {
                 Due.is("setRegister(" + r + ", " + word + ")", x.setRegister(r, word), true);
                 Due.is("register(" + r + ") after " + word, x.register(r), word);
             }
-        }
-    }
-
-    private static void wrongRegistersAreRefused() {
-        for (int r : WRONG_REGISTERS) {
-            MicroLc3 x = new MicroLc3();
-            Due.is("setRegister(" + r + ", 7)", x.setRegister(r, 7), false);
-            Due.is("register(" + r + ")", x.register(r), MicroLc3.BAD);
-            for (int other = 0; other < 8; other++) {
-                Due.is("register(" + other + ") after a refused setRegister(" + r + ", 7)", x.register(other), 0);
+            for (int word : Due.WRONG_WORDS) {
+                Due.is("setRegister(" + r + ", " + word + ")", x.setRegister(r, word), false);
+                Due.is("register(" + r + ") after a refused " + word, x.register(r), 65535);
             }
         }
     }
 
-    private static void wrongWordsAreRefused() {
-        for (int word : Due.WRONG_WORDS) {
-            MicroLc3 x = new MicroLc3();
-            x.setRegister(5, 99);
-            Due.is("setRegister(5, " + word + ")", x.setRegister(5, word), false);
-            Due.is("register(5) after a refused " + word, x.register(5), 99);
-            Due.is("setRegister(8, " + word + ")", x.setRegister(8, word), false);
+    /** "Sets a register": whatever its word and the sign, the sign stays, as does all else. */
+    private static void onlyThatRegisterChanges() {
+        for (int r = 0; r < 8; r++) {
+            for (int word : Due.EDGE_WORDS) {
+                for (int sign = -1; sign <= 1; sign++) {
+                    new Scene("setRegister(" + r + ", " + word + ") at sign " + sign).fullCells().sign(sign)
+                        .at(20, Instructions.HALT).executesOne().dueStatus(MicroLc3.HALTED)
+                        .register(r, word).shows();
+                }
+            }
         }
-    }
-
-    private static void nothingElseChanges() {
-        MicroLc3 x = new MicroLc3();
-        x.poke(0, Instructions.HALT);
-        x.step(1);
-        x.setRegister(1, 65535);
-        x.register(1);
-        Due.is("status() after setRegister", x.status(), MicroLc3.HALTED);
-        Due.is("place() after setRegister", x.place(), 1);
-        Due.is("sign() after setRegister", x.sign(), 0);
-        Due.is("count() after setRegister", x.count(), 1);
-        Due.is("peek(1) after setRegister", x.peek(1), 0);
     }
 }
